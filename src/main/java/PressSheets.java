@@ -139,7 +139,7 @@ public final class PressSheets {
             return creep;
         }
         long ofAll = (long) creep * job.copies;
-        return ofAll > Integer.MAX_VALUE ? OVER : (int) ofAll;
+        return ofAll == (int) ofAll ? (int) ofAll : OVER;
     }
 
     public long share(int page, int part) {
@@ -526,8 +526,8 @@ public final class PressSheets {
         }
 
         int find(int v, int from) {
-            for (int i = from; i < size; i++) {
-                if (get(i) == v) {
+            for (int i = Math.max(from, 0); i < size && i < items.length; i++) {
+                if (items[i] == v) {
                     return i;
                 }
             }

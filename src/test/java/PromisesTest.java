@@ -194,6 +194,12 @@ public final class PromisesTest {
         runIs(12, new int[][] {
             {0, 3, 1, 0}, {0, 3, 0, 0}, {0, 0, 0, 0}, {0, 0, 1, 0},
             {0, 1, 1, 0}, {0, 1, 0, 0}, {0, 2, 0, 0}, {0, 2, 1, 0}});
+        runIs(343, new int[][] {
+            {4, 0, 1, 1}, {4, 0, 0, 1}, {3, 0, 0, 0}, {3, 0, 1, 0}, {0, 0, 1, 1}, {0, 0, 0, 1}, {7, 0, 0, 0}, {7, 0, 1, 0},
+            {6, 0, 1, 1}, {6, 0, 0, 1}, {1, 0, 0, 0}, {1, 0, 1, 0}, {2, 0, 1, 1}, {2, 0, 0, 1}, {5, 0, 0, 0}, {5, 0, 1, 0}});
+        runIs(212, new int[][] {
+            {0, 3, 1, 0}, {0, 3, 0, 0}, {0, 4, 0, 0}, {0, 4, 1, 0}, {0, 7, 1, 0}, {0, 7, 0, 0}, {0, 0, 0, 0}, {0, 0, 1, 0},
+            {0, 1, 1, 0}, {0, 1, 0, 0}, {0, 6, 0, 0}, {0, 6, 1, 0}, {0, 5, 1, 0}, {0, 5, 0, 0}, {0, 2, 0, 0}, {0, 2, 1, 0}});
         PressSheets x = new PressSheets();
         for (int i : new int[] {-1, 4, LEAST, GREATEST}) {
             due("5: run(" + i + ", 0)", x.run(i, 0), NONE);
@@ -253,6 +259,25 @@ public final class PromisesTest {
         due("7: headways", x.page(1, 0, 0), 5);
         due("7: headways, right", x.page(1, 0, 1), 8);
         due("7: headways, below", x.page(1, 1, 0), 4);
+        x.set(1, 1);
+        x.set(2, 0);
+        int[][] gathered = {{3, 2, 14, 15}, {1, 4, 16, 13}, {7, 6, 10, 11}, {5, 8, 12, 9}};
+        for (int k = 0; k < 16; k++) {
+            due("7: gathered " + k, x.page(10 * (k / 8) + k / 4 % 2, k / 2 % 2, k % 2), gathered[k / 4][k % 4]);
+        }
+        // by 343 a column of leaves: 4B 4F 3F 3B 0B 0F 7F 7B 6B 6F 1F 1B 2B 2F 5F 5B
+        PressSheets high = job(343, 16, 0, 0);
+        int[] fronts = {6, 11, 14, 3, 2, 15, 10, 7}, backs = {5, 12, 13, 4, 1, 16, 9, 8};
+        for (int row = 0; row < 8; row++) {
+            due("7: front of 343, row " + row, high.page(0, row, 0), fronts[row]);
+            due("7: back of 343, row " + row, high.page(1, row, 0), backs[row]);
+        }
+        // by 212 a row of leaves: 3B 3F 4F 4B 7B 7F 0F 0B 1B 1F 6F 6B 5B 5F 2F 2B
+        PressSheets wide = job(212, 16, 0, 1);
+        fronts = new int[] {7, 10, 15, 2, 3, 14, 11, 6};
+        for (int column = 0; column < 8; column++) {
+            due("7: front of 212, column " + column, wide.page(0, 0, column), fronts[column]);
+        }
         for (int forme : new int[] {-1, 2, 9, 12, 20, 21, LEAST, GREATEST}) {
             due("7: page(" + forme + ", 0, 0)", x.page(forme, 0, 0), NONE);
         }
@@ -282,6 +307,7 @@ public final class PromisesTest {
         }
         due("8: headways, a row too far", x.turned(0, 4, 0), NONE);
         due("8: headways, a column too far", x.turned(0, 0, 2), NONE);
+        due("8: headways, the back of sheet 1", x.turned(1, 3, 0), 12);
         for (int bad : new int[] {-1, 429496730, LEAST, GREATEST}) {
             due("8: sheet " + bad, x.turned(bad, 0, 0), NONE);
             due("8: row " + bad, x.turned(0, bad, 0), NONE);
@@ -425,6 +451,8 @@ public final class PromisesTest {
         due("13: one leaves", x.clears(2), 1);
         due("13: what is printed stays", x.printed(0), 20);
         due("13: it may wait again", x.waits(11), 2);
+        x.waits(1);
+        due("13: sheet 0", x.clears(0), 2);
         for (int sheet : new int[] {-1, 3, LEAST, GREATEST}) {
             due("13: clears(" + sheet + ")", x.clears(sheet), NONE);
         }
@@ -527,6 +555,8 @@ public final class PromisesTest {
         due("18: the others close up", x.planned(0, 0) * 100 + x.planned(1, 0), 121);
         due("18: with page and head", x.planned(0, 1) * 10 + x.planned(0, 2), 61);
         due("18: none goes", x.unplan(5), 0);
+        due("18: nothing is told of the first page", x.unplan(1), 0);
+        due("18: nor of the last one", x.unplan(8), 0);
         for (int page : new int[] {0, 9, LEAST, GREATEST}) {
             due("18: unplan(" + page + ")", x.unplan(page), NONE);
         }
@@ -600,6 +630,15 @@ public final class PromisesTest {
         x = job(13, 8, 0, 1);
         x.plan(1, 1, 1, 1, 1);
         proofIs(x, 4, 1, 521, 0);
+        x.plans();
+        x.unplan(8);
+        proofIs(x, 1, 8);
+        x.set(2, 0);
+        x.set(0, 6);
+        // anew behind a plan that was emptied: the cells, pages and heads of now
+        x.plan(0, 0, 0, 1, 1);
+        x.plan(0, 0, 1, 1, 0);
+        proofIs(x, 2, 1, 0, 1);
     }
 
     private static void promise22See() {
@@ -657,6 +696,11 @@ public final class PromisesTest {
         x.see(-1, 0, 0, 0);
         x.see(10, 0, 0, 6);
         due("23: page 6 of sheet 1 at the left upper cell: by 1 and 3", x.fits(0) * 10 + x.fits(1), 21);
+        x.see(11, 0, 0, 8);
+        due("23: its back: by 1", x.fits(0) * 10 + x.fits(1), 11);
+        x.set(0, 9);
+        x.see(20, 0, 1, 11);
+        due("23: sheet 2: by 1", x.fits(0) * 10 + x.fits(1), 11);
         for (int what : new int[] {-1, 2, LEAST, GREATEST}) {
             due("23: fits(" + what + ")", x.fits(what), NONE);
         }
@@ -681,6 +725,10 @@ public final class PromisesTest {
         due("24: none then", x.event(-1, 77), 0);
         due("24: no event is left", x.count(1), 0);
         due("24: one again", x.event(3, 2), 1);
+        due("24: it is the new one", x.after(0) * 10 + x.after(2), 14);
+        due("24: none, once more", x.event(-1, 0), 0);
+        due("24: pages then", x.event(0, 5), 1);
+        due("24: so many", x.after(0) * 10 + x.after(2), 23);
     }
 
     private static void afterIs(PressSheets x, int sheets, int cell, int empty) {
@@ -796,6 +844,12 @@ public final class PromisesTest {
         due("28: a tape that holds nothing", x.judge(1, 3, 0), 100);
         x.tape(3, SHORTS, 0);
         due("28: an empty row", x.judge(1, 3, 0), 100);
+        x.set(0, 9);
+        shorts(x, 3, 0, 0, 0, 0, 9, 0, 0, 0);
+        due("28: the front of sheet 1: all are empty", x.judge(10, 3, 0), NO_MORE);
+        due("28: its back", x.judge(11, 3, 4), NO_MORE);
+        due("28: its back from elsewhere", x.judge(11, 3, 0), 0);
+        x.set(0, 6);
         for (int sort : new int[] {BYTES, INTS, LONGS, BOOLEANS}) {
             x.tape(3, sort, 4);
             due("28: sort " + sort, x.judge(1, 3, 0), CAST);
@@ -904,8 +958,10 @@ public final class PromisesTest {
             due("32: no place 60", x.peek(tape, 60), NO);
         }
         x.item(3, 5, 9);
+        x.item(3, 0, 9);
         due("32: anew", x.tape(3, INTS, 6), 1);
         due("32: all 0 again", x.peek(3, 5), 0);
+        due("32: the first, too", x.peek(3, 0), 0);
         due("32: shorter", x.peek(3, 6), NO);
         for (int tape : new int[] {-1, 6, LEAST, GREATEST}) {
             due("32: tape " + tape, x.tape(tape, 9, -1), NONE);
