@@ -1,7 +1,15 @@
+import java.util.Arrays;
+
 /** The class against the document done word by word: all folds, then long runs of mixed calls with right and wrong numbers. */
 public final class AgainstNaiveTest {
     private static final int RUNS = 1500, CALLS = 512;
     private static final int[] FAR = {Integer.MIN_VALUE, Integer.MAX_VALUE, -2, -1, 61, 128, 129, 1000, -100000, 100001, 1000001};
+    private static final int LEAST = Integer.MIN_VALUE, GREATEST = Integer.MAX_VALUE;
+    private static final int[] FEW = {LEAST, -2, -1, 0, 1, 2, 60, GREATEST};
+    private static final int[] SOME = {
+        LEAST, LEAST + 1, -100, -2, -1, 0, 1, 2, 3, 4, 5, 6, 7, 8, 15, 16, 17, 31, 32, 59, 60, 61, 126, 127, 128, 129, 310, 311,
+        312, 319, 320, 99999, 100000, 100001, 999999, 1000000, 1000001, GREATEST - 1, GREATEST};
+    private static final int[] MANY = new int[2600];
     private static final String[] TEXTS = {
         "f12;n20;w0;w1", "n8;g1;t1", "c5,6;w10;w11;w0", "f1;f3;f13", "n0;n7;n7;g3", "c9,0;c9,2", "n12345678", "f15", "w0;w1;w0;w99",
         "n4;", "g", "n1;n2;n3;n4;n5;n6;n7;n8;n9;n10;n11", "t0;t1;t0", "c1,;n3", "f", "f4321;n64;g1;t0;c77,3;w1;w0", "n00128", "x"};
@@ -10,7 +18,12 @@ public final class AgainstNaiveTest {
     private static long seed = 20261118;
 
     public static void main(String[] args) {
+        for (int k = 0; k < MANY.length; k++) {
+            // both ends of the ints, and all about 0
+            MANY[k] = k < 100 ? LEAST + k : k < 200 ? GREATEST - (k - 100) : k - 1000;
+        }
         allFolds();
+        extremes();
         for (int run = 0; run < RUNS && CHECK.isRight(); run++) {
             mixedRun(run);
         }
@@ -62,6 +75,174 @@ public final class AgainstNaiveTest {
                 CHECK.due(of + "turned " + row + " " + column, x.turned(sheet, row, column), y.turned(sheet, row, column));
                 CHECK.due(of + "page " + row + " " + column, x.page(10 * sheet, row, column), y.page(10 * sheet, row, column));
             }
+        }
+    }
+
+    /** Every call with each number at the edges of ints and of all that the document limits, each with each. */
+    private static void extremes() {
+        for (int op = 0; op < 32; op++) {
+            int[] numbers = op < 10 ? MANY : op < 22 ? SOME : FEW;
+            int arguments = op < 10 ? 1 : op < 22 ? 2 : op < 30 ? 3 : 5;
+            int combinations = 1;
+            for (int k = 0; k < arguments; k++) {
+                combinations *= numbers.length;
+            }
+            PressSheets x = null;
+            NaiveSheets y = null;
+            for (int k = 0; k < combinations; k++) {
+                if (k % 200 == 0) {
+                    x = new PressSheets();
+                    y = new NaiveSheets();
+                    setUp(x, y, k / 200 % 3);
+                }
+                int[] a = new int[5];
+                for (int n = 0, rest = k; n < arguments; n++) {
+                    a[n] = numbers[rest % numbers.length];
+                    rest /= numbers.length;
+                }
+                String name = "extremes " + op + " " + Arrays.toString(a);
+                if (arguments == 1) {
+                    one(name, x, y, op, a[0]);
+                } else if (arguments == 2) {
+                    two(name, x, y, op - 10, a[0], a[1]);
+                } else if (arguments == 3) {
+                    three(name, x, y, op - 22, a[0], a[1], a[2]);
+                } else if (op == 30) {
+                    CHECK.due(name, x.plan(a[0], a[1], a[2], a[3], a[4]), y.plan(a[0], a[1], a[2], a[3], a[4]));
+                } else {
+                    CHECK.due(name, x.shift(a[0], a[1], a[2], a[3], a[4]), y.shift(a[0], a[1], a[2], a[3], a[4]));
+                }
+            }
+        }
+    }
+
+    /** A new job, one of several sheets with something in each row, one with sixteen rows. */
+    private static void setUp(PressSheets x, NaiveSheets y, int kind) {
+        if (kind == 0) {
+            return;
+        }
+        x.fold(kind == 1 ? 13 : 4343);
+        y.fold(kind == 1 ? 13 : 4343);
+        x.set(0, 126);
+        y.set(0, 126);
+        x.set(kind, 1);
+        y.set(kind, 1);
+        for (int k = 0; k < 6; k++) {
+            x.waits(10 * k);
+            y.waits(10 * k);
+            x.plan(0, k % 2, 0, k + 1, 0);
+            y.plan(0, k % 2, 0, k + 1, 0);
+            x.tape(k, k - 1, 3 * k);
+            y.tape(k, k - 1, 3 * k);
+            x.event(3, 1 + k % 4);
+            y.event(3, 1 + k % 4);
+        }
+        x.press(3);
+        y.press(3);
+    }
+
+    private static void one(String name, PressSheets x, NaiveSheets y, int op, int a) {
+        switch (op) {
+            case 0:
+                CHECK.due(name, x.told(a) + 10L * x.count(a), y.told(a) + 10L * y.count(a));
+                break;
+            case 1:
+                CHECK.due(name, x.waits(a), y.waits(a));
+                break;
+            case 2:
+                CHECK.due(name, x.press(a), y.press(a));
+                break;
+            case 3:
+                CHECK.due(name, x.clears(a), y.clears(a));
+                break;
+            case 4:
+                CHECK.due(name, 10L * x.line(a) + x.printed(a), 10L * y.line(a) + y.printed(a));
+                break;
+            case 5:
+                CHECK.due(name, 200L * x.missing(a) + x.proof(a), 200L * y.missing(a) + y.proof(a));
+                break;
+            case 6:
+                CHECK.due(name, x.unplan(a), y.unplan(a));
+                break;
+            case 7:
+                CHECK.due(name, 10000L * x.fits(a) + x.after(a), 10000L * y.fits(a) + y.after(a));
+                break;
+            case 8:
+                CHECK.due(name, x.feed(a), y.feed(a));
+                break;
+            default:
+                CHECK.due(name, x.fold(a), y.fold(a));
+                break;
+        }
+    }
+
+    private static void two(String name, PressSheets x, NaiveSheets y, int op, int a, int b) {
+        switch (op) {
+            case 0:
+                CHECK.due(name, x.set(a, b), y.set(a, b));
+                break;
+            case 1:
+                CHECK.due(name, x.run(a, b), y.run(a, b));
+                break;
+            case 2:
+                CHECK.due(name, x.stands(a, b), y.stands(a, b));
+                break;
+            case 3:
+                CHECK.due(name, x.creep(a, b), y.creep(a, b));
+                break;
+            case 4:
+                CHECK.due(name, x.share(a, b), y.share(a, b));
+                break;
+            case 5:
+                CHECK.due(name, x.planned(a, b), y.planned(a, b));
+                break;
+            case 6:
+                CHECK.due(name, x.event(a, b), y.event(a, b));
+                break;
+            case 7:
+                CHECK.due(name, x.peek(a, b), y.peek(a, b));
+                break;
+            case 8:
+                CHECK.due(name, x.item(a, 1, b), y.item(a, 1, b));
+                break;
+            case 9:
+                CHECK.due(name, x.judge(a, 2, b), y.judge(a, 2, b));
+                break;
+            case 10:
+                CHECK.due(name, x.tape(5, a, b), y.tape(5, a, b));
+                break;
+            default:
+                CHECK.due(name, x.item(3, a, (long) b << 7), y.item(3, a, (long) b << 7));
+                break;
+        }
+    }
+
+    private static void three(String name, PressSheets x, NaiveSheets y, int op, int a, int b, int c) {
+        switch (op) {
+            case 0:
+                CHECK.due(name, x.page(a, b, c), y.page(a, b, c));
+                break;
+            case 1:
+                CHECK.due(name, x.turned(a, b, c), y.turned(a, b, c));
+                break;
+            case 2:
+                CHECK.due(name, x.judge(a, b, c), y.judge(a, b, c));
+                break;
+            case 3:
+                CHECK.due(name, x.tape(a, b, c), y.tape(a, b, c));
+                break;
+            case 4:
+                CHECK.due(name, x.item(a, b, c), y.item(a, b, c));
+                break;
+            case 5:
+                CHECK.due(name, x.see(a, b, c, 1), y.see(a, b, c, 1));
+                break;
+            case 6:
+                CHECK.due(name, x.see(0, a, b, c), y.see(0, a, b, c));
+                break;
+            default:
+                CHECK.due(name, x.shift(2, a, 3, b, c), y.shift(2, a, 3, b, c));
+                break;
         }
     }
 

@@ -2,10 +2,26 @@
 final class Check {
     private static final int MOST_PRINTED = 40;
     private final String title;
-    private int asked, wrong;
+    private int asked, wrong, sentences, askedBefore;
+    private String sentence = "";
 
     Check(String title) {
         this.title = title;
+    }
+
+    /** What follows tests a sentence of the document; one that nothing tests is wrong itself. */
+    void sentence(String words) {
+        endSentence();
+        sentence = words;
+        sentences++;
+        askedBefore = asked;
+    }
+
+    private void endSentence() {
+        if (sentences > 0 && asked == askedBefore) {
+            due("tested", 0, 1);
+        }
+        sentence = "";
     }
 
     void due(String call, long got, long want) {
@@ -15,7 +31,8 @@ final class Check {
         }
         wrong++;
         if (wrong <= MOST_PRINTED) {
-            System.out.println(title + ": " + call + " answered " + got + ", due is " + want);
+            String of = sentence.isEmpty() ? "" : "[" + sentence + "] ";
+            System.out.println(title + ": " + of + call + " answered " + got + ", due is " + want);
         }
     }
 
@@ -28,7 +45,9 @@ final class Check {
     }
 
     void end() {
-        System.out.println(title + ": " + asked + " answers, " + wrong + " wrong");
+        endSentence();
+        String of = sentences == 0 ? "" : sentences + " sentences, ";
+        System.out.println(title + ": " + of + asked + " answers, " + wrong + " wrong");
         if (wrong != 0 || asked == 0) {
             System.exit(1);
         }

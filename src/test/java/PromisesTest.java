@@ -51,30 +51,6 @@ public final class PromisesTest {
         CHECK.due(call, got, want);
     }
 
-    /** A job with a fold, so many pages, a gather and a turn. */
-    private static PressSheets job(int fold, int pages, int gather, int turn) {
-        PressSheets x = new PressSheets();
-        x.fold(fold);
-        x.set(0, pages);
-        x.set(1, gather);
-        x.set(2, turn);
-        return x;
-    }
-
-    private static int read(PressSheets x, String text) {
-        for (int i = 0; i < text.length(); i++) {
-            x.feed(text.charAt(i));
-        }
-        return x.read();
-    }
-
-    private static void shorts(PressSheets x, int tape, int... values) {
-        x.tape(tape, SHORTS, values.length);
-        for (int i = 0; i < values.length; i++) {
-            x.item(tape, i, values[i]);
-        }
-    }
-
     private static void promise1NewObject() {
         PressSheets x = new PressSheets();
         int[] told = {4, 0, 0, 100, 1, 1, 2, 1, 1, 0};
@@ -150,7 +126,7 @@ public final class PromisesTest {
     }
 
     private static void promise4Told() {
-        PressSheets x = job(314, 17, 1, 1);
+        PressSheets x = Jobs.job(314, 17, 1, 1);
         x.set(3, 7);
         x.set(4, 9);
         int[] told = {17, 1, 1, 7, 9, 314, 2, 4, 2, 15};
@@ -217,7 +193,7 @@ public final class PromisesTest {
 
     private static void promise6Stands() {
         // THE RUN of 13 is in promise5Run.
-        PressSheets x = job(13, 13, 0, 0);
+        PressSheets x = Jobs.job(13, 13, 0, 0);
         standsAt(x, 1, 0, 1, 0, 0, 1, 500, 2);
         standsAt(x, 2, 0, 0, 0, 1, 1, 1, 1);
         standsAt(x, 8, 0, 1, 1, 0, 0, 520, 7);
@@ -245,7 +221,7 @@ public final class PromisesTest {
     }
 
     private static void promise7Page() {
-        PressSheets x = job(13, 13, 0, 0);
+        PressSheets x = Jobs.job(13, 13, 0, 0);
         int[][] sides = {{3, 2, 6, 7}, {1, 4, 8, 5}};
         for (int sheet = 0; sheet <= 1; sheet++) {
             for (int side = 0; side <= 1; side++) {
@@ -266,14 +242,14 @@ public final class PromisesTest {
             due("7: gathered " + k, x.page(10 * (k / 8) + k / 4 % 2, k / 2 % 2, k % 2), gathered[k / 4][k % 4]);
         }
         // by 343 a column of leaves: 4B 4F 3F 3B 0B 0F 7F 7B 6B 6F 1F 1B 2B 2F 5F 5B
-        PressSheets high = job(343, 16, 0, 0);
+        PressSheets high = Jobs.job(343, 16, 0, 0);
         int[] fronts = {6, 11, 14, 3, 2, 15, 10, 7}, backs = {5, 12, 13, 4, 1, 16, 9, 8};
         for (int row = 0; row < 8; row++) {
             due("7: front of 343, row " + row, high.page(0, row, 0), fronts[row]);
             due("7: back of 343, row " + row, high.page(1, row, 0), backs[row]);
         }
         // by 212 a row of leaves: 3B 3F 4F 4B 7B 7F 0F 0B 1B 1F 6F 6B 5B 5F 2F 2B
-        PressSheets wide = job(212, 16, 0, 1);
+        PressSheets wide = Jobs.job(212, 16, 0, 1);
         fronts = new int[] {7, 10, 15, 2, 3, 14, 11, 6};
         for (int column = 0; column < 8; column++) {
             due("7: front of 212, column " + column, wide.page(0, 0, column), fronts[column]);
@@ -288,7 +264,7 @@ public final class PromisesTest {
     }
 
     private static void promise8Turned() {
-        PressSheets x = job(13, 13, 0, 0);
+        PressSheets x = Jobs.job(13, 13, 0, 0);
         int[][] sideways = {{3, 2, 1, 4}, {6, 7, 8, 5}};
         int[][] headways = {{3, 2}, {6, 7}, {5, 8}, {4, 1}};
         for (int row = 0; row < 2; row++) {
@@ -317,7 +293,7 @@ public final class PromisesTest {
     }
 
     private static void promise9Creep() {
-        PressSheets x = job(11, 13, 0, 0);
+        PressSheets x = Jobs.job(11, 13, 0, 0);
         int[] ofSheet = {0, 0, 100, 100, 100, 100, 0, 0};
         int[] ofAll = {0, 0, 100, 100, 200, 200, 300, 300, 300, 300, 200, 200, 100, 100, 0, 0};
         for (int page = 1; page <= 16; page++) {
@@ -341,7 +317,7 @@ public final class PromisesTest {
         x.set(3, 715828);
         due("9: no int's any more", x.creep(8, 1), OVER);
         due("9: creep alone", x.creep(8, 0), 2147484);
-        PressSheets most = job(1, 128, 1, 0);
+        PressSheets most = Jobs.job(1, 128, 1, 0);
         most.set(3, 1000000);
         most.set(4, 100000);
         due("9: the greatest", most.creep(64, 0), 31000000);
@@ -354,16 +330,16 @@ public final class PromisesTest {
     }
 
     private static void promise10Share() {
-        PressSheets x = job(11, 24, 1, 0);
+        PressSheets x = Jobs.job(11, 24, 1, 0);
         x.set(3, 123);
         shareIs(x, 1, 0, 1);
         shareIs(x, 3, 1, 5);
         shareIs(x, 20, 2, 5);
         shareIs(x, 12, 1, 1);
-        x = job(11, 28, 1, 0);
+        x = Jobs.job(11, 28, 1, 0);
         shareIs(x, 9, 4, 7);
         shareIs(x, 14, 6, 7);
-        x = job(111, 5, 0, 0);
+        x = Jobs.job(111, 5, 0, 0);
         shareIs(x, 3, 1, 2);
         shareIs(x, 5, 1, 1);
         // the pages above 5 are empty: theirs may be more than the greatest of the others
@@ -388,7 +364,7 @@ public final class PromisesTest {
     }
 
     private static void promise11Waits() {
-        PressSheets x = job(1, 9, 0, 0);
+        PressSheets x = Jobs.job(1, 9, 0, 0);
         due("11: waits(21)", x.waits(21), 1);
         due("11: waits(0)", x.waits(0), 2);
         due("11: it waits already", x.waits(21), STATE);
@@ -397,7 +373,7 @@ public final class PromisesTest {
         }
         x.press(2);
         due("11: it is printed", x.waits(0), STATE);
-        x = job(1, 128, 0, 0);
+        x = Jobs.job(1, 128, 0, 0);
         for (int sheet = 0; sheet < 20; sheet++) {
             due("11: a front", x.waits(10 * sheet), 2 * sheet + 1);
             due("11: a back", x.waits(10 * sheet + 1), 2 * sheet + 2);
@@ -411,7 +387,7 @@ public final class PromisesTest {
     }
 
     private static void promise12Press() {
-        PressSheets x = job(1, 12, 0, 0);
+        PressSheets x = Jobs.job(1, 12, 0, 0);
         due("12: none waits", x.press(99), 0);
         x.waits(1);
         due("12: a back alone is printed", x.press(5), 1);
@@ -426,7 +402,7 @@ public final class PromisesTest {
         due("12: its back, behind the other one that went to the end", x.printed(2), 21);
         due("12: the other one still waits", x.line(0), 11);
         due("12: alone it is printed", x.press(1), 1);
-        x = job(1, 12, 0, 0);
+        x = Jobs.job(1, 12, 0, 0);
         x.waits(1);
         x.waits(11);
         due("12: fronts that don't come", x.press(99), 0);
@@ -438,7 +414,7 @@ public final class PromisesTest {
     }
 
     private static void promise13Clears() {
-        PressSheets x = job(1, 12, 0, 0);
+        PressSheets x = Jobs.job(1, 12, 0, 0);
         x.waits(20);
         x.press(1);
         x.waits(11);
@@ -459,7 +435,7 @@ public final class PromisesTest {
     }
 
     private static void promise14Line() {
-        PressSheets x = job(1, 8, 0, 0);
+        PressSheets x = Jobs.job(1, 8, 0, 0);
         x.waits(10);
         x.waits(0);
         due("14: line(0)", x.line(0), 10);
@@ -478,7 +454,7 @@ public final class PromisesTest {
     }
 
     private static void promise15Missing() {
-        PressSheets x = job(1, 7, 0, 0);
+        PressSheets x = Jobs.job(1, 7, 0, 0);
         missingIs(x, 7, 1, 7);
         x.waits(0);
         x.press(1);
@@ -497,7 +473,7 @@ public final class PromisesTest {
     }
 
     private static void promise16Printed() {
-        PressSheets x = job(1, 128, 0, 0);
+        PressSheets x = Jobs.job(1, 128, 0, 0);
         for (int sheet = 31; sheet >= 0; sheet--) {
             x.waits(10 * sheet);
             x.waits(10 * sheet + 1);
@@ -514,7 +490,7 @@ public final class PromisesTest {
     }
 
     private static void promise17Plan() {
-        PressSheets x = job(13, 13, 0, 0);
+        PressSheets x = Jobs.job(13, 13, 0, 0);
         due("17: the first", x.plan(11, 1, 0, 13, 1), 1);
         due("17: the second", x.plan(0, 0, 1, 1, 0), 2);
         due("17: the first one anew", x.plan(11, 1, 0, 2, 0), 2);
@@ -534,7 +510,7 @@ public final class PromisesTest {
             due("17: head " + head, x.plan(0, 0, 0, 1, head), BAD);
         }
         due("17: as many as before", x.count(5), 2);
-        x = job(1, 128, 0, 0);
+        x = Jobs.job(1, 128, 0, 0);
         for (int k = 0; k < 60; k++) {
             due("17: cell " + k, x.plan(10 * (k / 4) + k / 2 % 2, 0, k % 2, 1, 0), k + 1);
         }
@@ -546,7 +522,7 @@ public final class PromisesTest {
     }
 
     private static void promise18Unplan() {
-        PressSheets x = job(13, 8, 0, 0);
+        PressSheets x = Jobs.job(13, 8, 0, 0);
         x.plan(0, 0, 0, 5, 0);
         x.plan(0, 0, 1, 6, 1);
         x.plan(0, 1, 0, 5, 0);
@@ -564,7 +540,7 @@ public final class PromisesTest {
     }
 
     private static void promise19Planned() {
-        PressSheets x = job(13, 13, 0, 0);
+        PressSheets x = Jobs.job(13, 13, 0, 0);
         x.plan(11, 1, 0, 13, 1);
         due("19: the cell", x.planned(0, 0), 1520);
         due("19: the page", x.planned(0, 1), 13);
@@ -578,7 +554,7 @@ public final class PromisesTest {
     }
 
     private static void promise20Plans() {
-        PressSheets x = job(13, 6, 0, 0);
+        PressSheets x = Jobs.job(13, 6, 0, 0);
         x.plan(0, 1, 0, 1, 0);
         // 7 and 8 are empty: what is told by hand of their cell stays
         x.plan(1, 1, 0, 2, 0);
@@ -589,7 +565,7 @@ public final class PromisesTest {
                 due("20: planned(" + k + ", " + what + ")", x.planned(k, what), want[k][what]);
             }
         }
-        x = job(1, 128, 0, 0);
+        x = Jobs.job(1, 128, 0, 0);
         x.plan(311, 0, 0, 1, 1);
         due("20: as many as there is room for", x.plans(), 60);
         due("20: one behind the room, told already", x.planned(0, 1), 128);
@@ -606,7 +582,7 @@ public final class PromisesTest {
     }
 
     private static void promise21Proof() {
-        PressSheets x = job(13, 8, 0, 0);
+        PressSheets x = Jobs.job(13, 8, 0, 0);
         proofIs(x, 1, 1);
         x.plans();
         proofIs(x, 0);
@@ -627,7 +603,7 @@ public final class PromisesTest {
         due("21: below 0", x.proof(-1), NONE);
         due("21: the least", x.proof(LEAST), NONE);
         // headways the backs' heads are the other way about
-        x = job(13, 8, 0, 1);
+        x = Jobs.job(13, 8, 0, 1);
         x.plan(1, 1, 1, 1, 1);
         proofIs(x, 4, 1, 521, 0);
         x.plans();
@@ -684,7 +660,7 @@ public final class PromisesTest {
         due("23: no fold has both cells", x.fits(0), 0);
         due("23: no least", x.fits(1), NO_MORE);
         due("23: the fold is as it was", x.told(5), 1);
-        x = job(2, 3, 0, 0);
+        x = Jobs.job(2, 3, 0, 0);
         x.see(1, 0, 1, 4);
         due("23: an empty page stands too", x.fits(0), 1);
         due("23: by 2", x.fits(1), 2);
@@ -775,27 +751,27 @@ public final class PromisesTest {
 
     private static void promise27Read() {
         PressSheets x = new PressSheets();
-        due("27: all clauses", read(x, "f1342;n0000128;g1;t1;c1000000,100000;w11"), 6);
+        due("27: all clauses", Jobs.read(x, "f1342;n0000128;g1;t1;c1000000,100000;w11"), 6);
         due("27: the text is empty", x.count(2), 0);
         int[] told = {128, 1, 1, 1000000, 100000, 1342, 4, 4, 4, 0};
         for (int what = 0; what < told.length; what++) {
             due("27: told(" + what + ")", x.told(what), told[what]);
         }
         due("27: it waits", x.line(0), 11);
-        due("27: nothing becomes another one", read(x, "f1342;n128;g1;t1;c1000000,100000"), 5);
+        due("27: nothing becomes another one", Jobs.read(x, "f1342;n128;g1;t1;c1000000,100000"), 5);
         due("27: it still waits", x.line(0), 11);
-        due("27: refused ones", read(x, "n0;n129;g2;t2;c1000001,1;c0,0;w11;w2;w40;n9999999"), 0);
+        due("27: refused ones", Jobs.read(x, "n0;n129;g2;t2;c1000001,1;c0,0;w11;w2;w40;n9999999"), 0);
         due("27: they changed nothing", x.told(0) + x.told(1) + x.told(2) + x.count(3), 131);
         due("27: c as a whole", x.told(3) + x.told(4), 1100000);
-        due("27: c refused by its second number", read(x, "c5,100001;c7,1"), 1);
+        due("27: c refused by its second number", Jobs.read(x, "c5,100001;c7,1"), 1);
         due("27: the good one was done", x.told(3) * 10 + x.told(4), 71);
         x.plan(0, 0, 0, 1, 0);
-        due("27: there and back again", read(x, "n3;n128;w0"), 3);
+        due("27: there and back again", Jobs.read(x, "n3;n128;w0"), 3);
         due("27: that emptied the press, and the plan", x.count(3) * 10 + x.count(5), 10);
-        due("27: a fault: nothing is done", read(x, "n3;g0;"), -16);
+        due("27: a fault: nothing is done", Jobs.read(x, "n3;g0;"), -16);
         due("27: nothing was", x.told(0), 128);
         due("27: the text is empty by a fault, too", x.count(2), 0);
-        due("27: ten clauses", read(x, "n1;n2;n3;n4;n5;n6;n7;n8;n9;n10"), 10);
+        due("27: ten clauses", Jobs.read(x, "n1;n2;n3;n4;n5;n6;n7;n8;n9;n10"), 10);
         due("27: the last one counts", x.told(0), 10);
     }
 
@@ -810,21 +786,21 @@ public final class PromisesTest {
             4, 8, 16, 1, 29, 2};
         for (int k = 0; k < texts.length; k++) {
             if (places[k] >= 0) {
-                due("27: fault of '" + texts[k] + "'", read(new PressSheets(), texts[k]), -10 - places[k]);
+                due("27: fault of '" + texts[k] + "'", Jobs.read(new PressSheets(), texts[k]), -10 - places[k]);
             }
         }
-        due("27: seven digits are no fault", read(new PressSheets(), "n1234567"), 0);
+        due("27: seven digits are no fault", Jobs.read(new PressSheets(), "n1234567"), 0);
         StringBuilder full = new StringBuilder();
         for (int k = 0; k < 6; k++) {
             full.append("c0000001,0000001;");
         }
-        due("27: a hundred signs: the sixth clause has 0 copies", read(new PressSheets(), full.substring(0, 100)), 5);
-        due("27: a text that ends too early", read(new PressSheets(), full.substring(0, 94)), -10 - 94);
+        due("27: a hundred signs: the sixth clause has 0 copies", Jobs.read(new PressSheets(), full.substring(0, 100)), 5);
+        due("27: a text that ends too early", Jobs.read(new PressSheets(), full.substring(0, 94)), -10 - 94);
     }
 
     private static void promise28Judge() {
-        PressSheets x = job(13, 6, 0, 0);
-        shorts(x, 2, 9, 3, 2, 6, 0, 1, 4, 0, 5);
+        PressSheets x = Jobs.job(13, 6, 0, 0);
+        Jobs.shorts(x, 2, 9, 3, 2, 6, 0, 1, 4, 0, 5);
         due("28: the front", x.judge(0, 2, 1), NO_MORE);
         due("28: the back, with an empty page", x.judge(1, 2, 5), NO_MORE);
         due("28: the first is otherwise", x.judge(0, 2, 0), 0);
@@ -834,9 +810,9 @@ public final class PromisesTest {
         x.item(2, 4, 7);
         due("28: an empty page told by its number", x.judge(0, 2, 1), 3);
         due("28: the row ends", x.judge(1, 2, 9), 100);
-        shorts(x, 2, 1, 4, 0);
+        Jobs.shorts(x, 2, 1, 4, 0);
         due("28: three were looked at", x.judge(1, 2, 0), 103);
-        shorts(x, 2, 1, 5, 0);
+        Jobs.shorts(x, 2, 1, 5, 0);
         due("28: otherwise ahead of the end", x.judge(1, 2, 0), 1);
         due("28: a place below 0", x.judge(1, 2, -1), 100);
         due("28: the least place", x.judge(1, 2, LEAST), 100);
@@ -845,7 +821,7 @@ public final class PromisesTest {
         x.tape(3, SHORTS, 0);
         due("28: an empty row", x.judge(1, 3, 0), 100);
         x.set(0, 9);
-        shorts(x, 3, 0, 0, 0, 0, 9, 0, 0, 0);
+        Jobs.shorts(x, 3, 0, 0, 0, 0, 9, 0, 0, 0);
         due("28: the front of sheet 1: all are empty", x.judge(10, 3, 0), NO_MORE);
         due("28: its back", x.judge(11, 3, 4), NO_MORE);
         due("28: its back from elsewhere", x.judge(11, 3, 0), 0);
@@ -864,7 +840,7 @@ public final class PromisesTest {
     }
 
     private static void promise29Image() {
-        PressSheets x = job(13, 17, 0, 0);
+        PressSheets x = Jobs.job(13, 17, 0, 0);
         due("29: its sheets", x.image(), 3);
         x.set(0, 1);
         due("29: anew", x.image(), 1);
@@ -872,7 +848,7 @@ public final class PromisesTest {
     }
 
     private static void promise30Undo() {
-        PressSheets x = job(13, 17, 1, 1);
+        PressSheets x = Jobs.job(13, 17, 1, 1);
         due("30: no image", x.undo(), STATE);
         x.set(3, 8);
         x.set(4, 9);
@@ -925,7 +901,7 @@ public final class PromisesTest {
     }
 
     private static void promise31Count() {
-        PressSheets x = job(1, 8, 0, 0);
+        PressSheets x = Jobs.job(1, 8, 0, 0);
         x.see(0, 0, 0, 1);
         for (int k = 0; k < 2; k++) {
             x.event(1, 0);
@@ -1027,8 +1003,8 @@ public final class PromisesTest {
 
     private static void promise35Shift() {
         PressSheets x = new PressSheets();
-        shorts(x, 0, 1, 2, 3, 4, 5);
-        shorts(x, 1, 9, 8, 7);
+        Jobs.shorts(x, 0, 1, 2, 3, 4, 5);
+        Jobs.shorts(x, 1, 9, 8, 7);
         due("35: to another one", x.shift(0, 3, 1, 0, 2), 2);
         tapeIs(x, 1, 4, 5, 7);
         tapeIs(x, 0, 1, 2, 3, 4, 5);
