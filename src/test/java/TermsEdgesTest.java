@@ -1299,10 +1299,11 @@ public final class TermsEdgesTest {
     private static void calls() {
         CHECK.sentence("An object is used for at most 512 calls after it has been made");
         PressSheets x = pages(1, 128);
-        for (int call = 4; call < 511; call += 2) {
+        for (int call = 5; call < 511; call += 2) {
             due("call " + call, x.set(0, 127 + call / 2 % 2), 128 - call / 2 % 2);
             due("the next one", x.image(), 32);
         }
-        due("the last one", x.told(8), 32);
+        due("call 511", x.told(8), 32);
+        due("call 512", x.undo(), 32);
     }
 }
