@@ -339,6 +339,13 @@ public final class PromisesTest {
         x = Jobs.job(11, 28, 1, 0);
         shareIs(x, 9, 4, 7);
         shareIs(x, 14, 6, 7);
+        // creeps that have no divisor but 1 in common
+        x.set(3, 1);
+        shareIs(x, 1, 0, 1);
+        shareIs(x, 3, 1, 7);
+        shareIs(x, 9, 4, 7);
+        shareIs(x, 14, 6, 7);
+        shareIs(x, 15, 1, 1);
         x = Jobs.job(111, 5, 0, 0);
         shareIs(x, 3, 1, 2);
         shareIs(x, 5, 1, 1);
@@ -373,6 +380,10 @@ public final class PromisesTest {
         }
         x.press(2);
         due("11: it is printed", x.waits(0), STATE);
+        due("11: the back, as nothing else waits", x.press(1), 1);
+        due("11: it is printed, as the second one", x.waits(21), STATE);
+        due("11: the first one still is", x.waits(0), STATE);
+        due("11: nothing waits", x.count(3), 0);
         x = Jobs.job(1, 128, 0, 0);
         for (int sheet = 0; sheet < 20; sheet++) {
             due("11: a front", x.waits(10 * sheet), 2 * sheet + 1);

@@ -931,6 +931,10 @@ public final class TermsEdgesTest {
         shareIs(x, 28, 0, 1);
         x.set(3, 1000000);
         shareIs(x, 9, 2, 3);
+        x.set(3, 1);
+        for (int[] row : want) {
+            shareIs(x, row[0], row[1], row[2]);
+        }
         CHECK.sentence("(0 over 1, if that is 0)");
         x.set(3, 0);
         shareIs(x, 13, 0, 1);
